@@ -141,6 +141,9 @@ public final class PromiseTest {
         due(4, "text of blanks", x.text(), 0);
         due(4, "the tape is empty", x.count(4), 0);
         due(3, "back(1) of none", x.back(1), NONE);
+        x.feed(1, 2, 3, 4, 5);
+        due(3, "back(21)", x.back(21), NONE);
+        due(3, "back of all", x.back(20), 0);
         // The highest byte first, and bytes above 127 are bytes like others.
         x.feed(0x73657420, 0x613BFFFF, -1, -1, -1);
         due(2, "a byte of 255", x.text(), -4 - 6);
@@ -184,6 +187,8 @@ public final class PromiseTest {
         fault("se", 0);
         fault("sets a;", 0);
         fault("Set a;", 0);
+        fault("setz a;", 0);
+        fault("seta;", 0);
         fault("setA", 3);
         fault("points", 6);
         fault("points ", 7);
@@ -249,6 +254,11 @@ public final class PromiseTest {
         due(17, "undo behind text", x.undo(), NONE);
         due(4, "points go", tell(x, "points 3;"), 0);
         due(4, "the list goes", x.count(2), 0);
+        x = new UnionFamilies();
+        x.list(D);
+        x.list(A);
+        due(4, "points go", tell(x, "points 3;"), 0);
+        due(4, "the list goes for its first set", x.count(2), 0);
     }
 
     private static void generators() {
@@ -411,6 +421,9 @@ public final class PromiseTest {
         due(16, "in another order", x.adopt(), 2);
         dueText(16, x, "points 4;set a;set b;");
         due(16, "count(3)", x.count(3), 3);
+        x.change(0, C);
+        due(16, "one alone is unlike", x.adopt(), 2);
+        dueText(16, x, "points 4;set a;set b;");
     }
 
     private static void undone() {
@@ -580,8 +593,12 @@ public final class PromiseTest {
         for (int what = 0; what < all.length; what++) {
             due(23, "all sets, family(" + what + ")", x.family(what), all[what]);
         }
-        // The greatest frequency is not the first point's.
+        due(23, "DEPTH of one", new UnionFamilies().family(8), 0);
+        // The greatest frequency is not the first point's, and that is not frequent.
         x = of("points 3;set bc;set c;");
+        due(23, "family(3)", x.family(3), C);
+        x = of("points 3;set abc;set c;set bc;");
+        due(23, "family(3)", x.family(3), B | C);
         due(23, "family(4)", x.family(4), 2);
         // Weights of 0 prove nothing; weights off the top do not matter.
         x = of("points 3;weight a 0;set a;");
@@ -688,6 +705,7 @@ public final class PromiseTest {
         due(30, "REST of d: how many", x.part(3, false, 0), 2);
         due(30, "REST of d: union", x.part(3, false, 1), A | B);
         due(30, "REST of d: in all", x.part(3, false, 2), 0);
+        due(30, "REST of b: union", x.part(1, false, 1), D);
         due(30, "REST of d: closed", x.part(3, false, 3), 1);
         due(30, "LINK of e: how many", x.part(4, true, 0), 0);
         due(30, "LINK of e: union", x.part(4, true, 1), LACKS);
@@ -901,7 +919,8 @@ public final class PromiseTest {
         due(47, "of none", new UnionFamilies().spoiler(), A);
         // 0, ab with a: 0, a, ab: a 2 of 3 alone; with c: 0, c, ab, abc: all three.
         due(47, "ab", of("points 3;set ab;").spoiler(), A);
-        // 0, abc with b: 0, b, abc.
+        // 0, bc with a: 0, a, bc, abc: all three; with b: 0, b, bc: b alone.
+        due(47, "bc", of("points 3;set bc;").spoiler(), B);
         due(47, "a, told", of("points 1;set a;").spoiler(), A);
         // 0, c, abc: c alone is frequent; a: 0, a, c, ac, abc: a and c; b: alike; c changes nothing.
         due(47, "a member", of("points 3;set c;set abc;").spoiler(), C);
