@@ -1,8 +1,14 @@
+import java.util.LinkedHashMap;
+import java.util.Map;
+import java.util.function.Consumer;
 import java.util.function.ToIntFunction;
 
 /** The edges that promises 1 to 17 name (a new object, what is told, acts), each with a test of its own. */
 public final class EdgeActsTest extends Edges {
     private static final int BLANKS = 0x20202020;
+    private static final String IDLE_AB = "points 4;weight b 2;set b;set ab;set a;set cd;";
+    /** One call of each kind of act; each of them happens where the text is IDLE_AB and c is on the LIST. */
+    private static final Map<String, ToIntFunction<UnionFamilies>> ACTS = allActs();
 
     public static void main(String[] args) {
         newObject();
@@ -40,6 +46,40 @@ public final class EdgeActsTest extends Edges {
             due("undo behind " + call, x.undo(), left);
         }
         due("what stands behind " + call, told(x), before);
+    }
+
+    /** Each act behind the call does what it does without it: nothing of the call has stayed. */
+    private static void leavesNoMark(String text, String call, Consumer<UnionFamilies> calling) {
+        ACTS.forEach((name, act) -> {
+            UnionFamilies plain = prepared(text);
+            UnionFamilies called = prepared(text);
+            calling.accept(called);
+            due(name + " behind " + call, act.applyAsInt(called), act.applyAsInt(plain));
+            due("what stands behind " + call + " and " + name, state(called), state(plain));
+        });
+    }
+
+    private static UnionFamilies prepared(String text) {
+        UnionFamilies x = of(text);
+        x.list(C);
+        return x;
+    }
+
+    private static Map<String, ToIntFunction<UnionFamilies>> allActs() {
+        Map<String, ToIntFunction<UnionFamilies>> out = new LinkedHashMap<>();
+        out.put("generate", x -> x.generate(D));
+        out.put("drop", x -> x.drop(0) ? 1 : NONE);
+        out.put("change", x -> x.change(0, D));
+        out.put("weigh", x -> x.weigh(1, 0));
+        out.put("swap", x -> x.swap(0, 2));
+        out.put("turn", x -> x.turn());
+        out.put("without", x -> x.without(0));
+        out.put("lean", x -> x.lean());
+        out.put("basis", x -> x.basis());
+        out.put("list", x -> x.list(D));
+        out.put("strike", x -> x.strike(0));
+        out.put("adopt", x -> x.adopt());
+        return out;
     }
 
     private static UnionFamilies fullTape() {
@@ -213,6 +253,8 @@ public final class EdgeActsTest extends Edges {
             due("all else", state(x), before);
             due("acts stay", x.undo(), 1);
             due("acts stay", told(x), "points 5;weight a 3;set ae;");
+            leavesNoMark(IDLE_AB, "a FAULT", o -> tell(o, "points 7;weight b 9;weight g 9;set g;set ag;#"));
+            leavesNoMark(IDLE_AB, "a FAULT at its first byte", o -> tell(o, "#"));
             UnionFamilies full = fullTape();
             full.back(20);
             feed(full, "                   #");
@@ -230,6 +272,7 @@ public final class EdgeActsTest extends Edges {
             due("behind one that went", x.generate(1), 11);
         });
         edge(5, "NONE, and nothing happens", () -> {
+            leavesNoMark(IDLE_AB, "generate of what is told", x -> x.generate(B));
             losesNoAct("set a;", "empty", x -> x.generate(0));
             losesNoAct("set a;", "of other POINTS", x -> x.generate(16));
             losesNoAct("set a;", "told already", x -> x.generate(A));
@@ -313,6 +356,7 @@ public final class EdgeActsTest extends Edges {
             due("twelve", x.count(1), 12);
         });
         edge(7, "NONE, and nothing happens", () -> {
+            leavesNoMark(IDLE_AB, "change to what is told", x -> x.change(0, A));
             losesNoAct("set a;", "no such one", x -> x.change(1, B));
             losesNoAct("set a;", "empty", x -> x.change(0, 0));
             losesNoAct("set a;", "of other POINTS", x -> x.change(0, 16));
@@ -409,6 +453,7 @@ public final class EdgeActsTest extends Edges {
             due("an act", x.count(3), 1);
         });
         edge(9, "NONE, and nothing happens", () -> {
+            leavesNoMark(IDLE_AB, "swap that changes none", x -> x.swap(2, 3));
             losesNoAct("set a;", "no such POINTS", x -> x.swap(0, 4));
             losesNoAct("set a;", "both are one", x -> x.swap(0, 0));
             losesNoAct("set a;", "none would", x -> x.swap(1, 2));
@@ -466,6 +511,7 @@ public final class EdgeActsTest extends Edges {
             due("a turn that leaves it", of("set ac;set bd;").turn(), 2);
         });
         edge(10, "NONE, and nothing happens", () -> {
+            leavesNoMark("points 4;weight b 2;set abcd;", "turn that changes none", x -> x.turn());
             losesNoAct("points 4;set abcd;", "turn", x -> x.turn());
             losesNoAct("points 4;", "turn of none", x -> x.turn());
         });
@@ -505,6 +551,7 @@ public final class EdgeActsTest extends Edges {
             due("POINTS and WEIGHTS stay", told(x), "points 4;weight a 4;set b;set c;set d;");
         });
         edge(11, "NONE, and nothing happens", () -> {
+            leavesNoMark("points 4;set b;set cd;", "without what is in none", x -> x.without(0));
             losesNoAct("set ab;", "no such POINT", x -> x.without(4));
             losesNoAct("set ab;", "it is in none", x -> x.without(2));
         });
@@ -541,6 +588,7 @@ public final class EdgeActsTest extends Edges {
             due("MEMBERS stay", of("set a;set b;set ab;").family(0), 4);
         });
         edge(12, "NONE, and nothing happens: there are none.", () -> {
+            leavesNoMark("points 4;set b;set a;", "lean of none", x -> x.lean());
             losesNoAct("set b;set a;", "lean", x -> x.lean());
             UnionFamilies none = new UnionFamilies();
             refused(none, "no GENERATORS", () -> none.lean());
@@ -575,6 +623,7 @@ public final class EdgeActsTest extends Edges {
             refused(y, "basis again", () -> y.basis());
         });
         edge(13, "NONE, and nothing happens", () -> {
+            leavesNoMark("points 4;set a;set b;", "basis that is so", x -> x.basis());
             losesNoAct("set a;set b;", "basis", x -> x.basis());
             UnionFamilies none = new UnionFamilies();
             refused(none, "no GENERATORS", () -> none.basis());
@@ -598,6 +647,7 @@ public final class EdgeActsTest extends Edges {
             due("an act each, of which 12 stay", x.count(3), 12);
         });
         edge(14, "NONE, and nothing happens", () -> {
+            leavesNoMark(IDLE_AB, "list of what is on it", o -> o.list(C));
             losesNoAct("", "empty", x -> x.list(0));
             losesNoAct("", "of other POINTS", x -> x.list(16));
             UnionFamilies x = listing("points 5;", 1, 20);
@@ -654,6 +704,7 @@ public final class EdgeActsTest extends Edges {
             due("the one ahead of it", full.listed(18), 19);
         });
         edge(15, "NONE, and nothing happens: no such one.", () -> {
+            leavesNoMark(IDLE_AB, "strike of no such one", o -> o.strike(1));
             UnionFamilies x = listing("", 1, 3);
             refused(x, "strike(3)", () -> x.strike(3));
             refused(x, "strike(-1)", () -> x.strike(-1));
@@ -678,6 +729,7 @@ public final class EdgeActsTest extends Edges {
             due("the last one", y.generator(11, 0), 1);
         });
         edge(16, "NONE, and nothing happens", () -> {
+            leavesNoMark("points 4;set c;", "adopt of what is so", o -> o.adopt());
             losesNoAct("set a;", "adopt of none", x -> x.adopt());
             UnionFamilies x = listing("points 5;set a;", 1, 13);
             refused(x, "thirteen", () -> x.adopt());
@@ -706,25 +758,20 @@ public final class EdgeActsTest extends Edges {
             due("in another order", listing("set b;set a;", 1, 2).adopt(), 2);
             due("one GENERATOR more", listing("set a;set b;set c;", 1, 2).adopt(), 2);
             due("one GENERATOR less", listing("set a;", 1, 2).adopt(), 2);
+            due("the first one is unlike", listing("set c;set b;", 1, 2).adopt(), 2);
             due("the last one is unlike", listing("set a;set c;", 1, 2).adopt(), 2);
         });
     }
 
     private static void undo() {
         edge(17, "The latest ACT is taken back", () -> {
-            String text = "points 4;weight b 2;set b;set ab;set a;set cd;";
-            takesBack(text, "generate", x -> x.generate(D));
-            takesBack(text, "drop", x -> x.drop(0) ? 1 : NONE);
-            takesBack(text, "change", x -> x.change(3, D));
-            takesBack(text, "weigh", x -> x.weigh(1, 0));
-            takesBack(text, "swap", x -> x.swap(0, 2));
-            takesBack(text, "turn", x -> x.turn());
-            takesBack(text, "without", x -> x.without(0));
-            takesBack(text, "lean", x -> x.lean());
-            takesBack(text, "basis", x -> x.basis());
-            takesBack(text, "list", x -> x.list(D));
-            takesBack(text, "strike", x -> x.strike(0));
-            takesBack(text, "adopt", x -> x.adopt());
+            ACTS.forEach((name, act) -> {
+                takesBack(name, act);
+                leavesNoMark(IDLE_AB, "undo of " + name, x -> {
+                    act.applyAsInt(x);
+                    x.undo();
+                });
+            });
         });
         edge(17, "how many more can be", () -> {
             UnionFamilies x = new UnionFamilies();
@@ -747,9 +794,8 @@ public final class EdgeActsTest extends Edges {
         });
     }
 
-    private static void takesBack(String text, String call, ToIntFunction<UnionFamilies> act) {
-        UnionFamilies x = of(text);
-        x.list(C);
+    private static void takesBack(String call, ToIntFunction<UnionFamilies> act) {
+        UnionFamilies x = prepared(IDLE_AB);
         feed(x, "set");
         String before = state(x);
         due(call + " happens", act.applyAsInt(x) != NONE, true);

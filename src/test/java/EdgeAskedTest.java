@@ -30,6 +30,7 @@ public final class EdgeAskedTest extends Edges {
         shattered();
         fewest();
         nothingHappens();
+        answersFollowActs();
         end(18, 43);
     }
 
@@ -282,6 +283,9 @@ public final class EdgeAskedTest extends Edges {
             due("then bits", of(SIX).trace(A | B | D, 3), B | D);
             due("the last", of(SIX).trace(A | B | D, 4), A | B | D);
             due("the last of all", of(ALL_SETS).trace(127, 127), 127);
+            UnionFamilies x = of(SIX);
+            x.trace(31, NONE);
+            due("behind a greater one", x.trace(C | D, NONE), 3);
         });
         edge(29, "-2: there are not so many", () -> {
             due("in the empty SET", of(SIX).trace(0, 1), LACKS);
@@ -460,6 +464,14 @@ public final class EdgeAskedTest extends Edges {
     }
 
     private static void commonAndRanked() {
+        edge(37, "How many MEMBERS have two POINTS", () -> {
+            due("a and b", of(SIX).common(0, 1), 3);
+            due("a and d", of(SIX).common(0, 3), 2);
+            due("d and a", of(SIX).common(3, 0), 2);
+            due("one is in none", of(SIX).common(0, 4), 0);
+            due("one is in none", of(SIX).common(4, 0), 0);
+            due("the TOP alone", of(ROW).common(6, 0), 1);
+        });
         edge(37, "(both one: it)", () -> {
             due("b", of(SIX).common(1, 1), 4);
             due("e", of(SIX).common(4, 4), 0);
@@ -585,5 +597,33 @@ public final class EdgeAskedTest extends Edges {
         x.fewest(7);
         due("what stands behind calls that ask", state(x), before);
         due("MEMBERS behind calls that ask", membersOf(x), ",d,ab,abd,bcd,abcd");
+    }
+
+    /** What was asked ahead of an act, or of an undo, does not stay behind it. */
+    private static void answersFollowActs() {
+        UnionFamilies x = of(ALL_SETS);
+        dueAsNew("at first", x, ALL_SETS);
+        tell(x, SIX);
+        dueAsNew("behind a TEXT", x, SIX);
+        x.drop(2);
+        dueAsNew("behind drop", x, "points 5;set ab;set bcd;");
+        x.without(0);
+        dueAsNew("behind without", x, "points 5;set b;set bcd;");
+        x.undo();
+        x.undo();
+        dueAsNew("behind undo", x, SIX);
+    }
+
+    private static void dueAsNew(String when, UnionFamilies x, String told) {
+        UnionFamilies fresh = of(told);
+        for (int what = 0; what <= 12; what++) {
+            due("family(" + what + ") " + when, x.family(what), fresh.family(what));
+        }
+        for (int k = 0; k <= 8; k++) {
+            due("chain(" + k + ") " + when, x.chain(k), fresh.chain(k));
+            due("degree(" + k + ", true) " + when, x.degree(k, true), fresh.degree(k, true));
+            due("degree(" + k + ", false) " + when, x.degree(k, false), fresh.degree(k, false));
+        }
+        due("single " + when, x.single(), fresh.single());
     }
 }

@@ -83,6 +83,10 @@ public final class EdgeTermsTest extends Edges {
         edge(TERMS, "WORDS, LETTERS are small letters as far as they go on, L one alone, N one digit.", () -> {
             fault("sets a;", 0);
             fault("sett a;", 0);
+            fault("setz a;", 0);
+            fault("bet a;", 0);
+            fault("joints 3;", 0);
+            fault("height a 1;", 0);
             fault("se t a;", 0);
             fault("se", 0);
             fault("point 3;", 0);
@@ -383,6 +387,9 @@ public final class EdgeTermsTest extends Edges {
             due("of one", new UnionFamilies().family(6), 1);
             due("of a row", of("points 7;set a;set ab;set abc;set abcd;set abcde;set abcdef;set abcdefg;").family(6), 1);
             due("of all", of(ALL_SETS).family(6), 35);
+            // 0, a, b, ab, ac, abc: two rows have all.
+            due("of two rows", of("set a;set b;set ac;").family(6), 2);
+            due("of three rows", of("set a;set b;set ac;set ad;").family(6), 3);
             due("of unlike SIZES", of("set ab;set ac;set bc;set d;").family(6), 4);
         });
         edge(TERMS, "JOIN of two MEMBERS is their union, MEET the INNER of what is in both.", () -> {

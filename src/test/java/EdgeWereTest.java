@@ -68,6 +68,10 @@ public final class EdgeWereTest extends Edges {
             due("an IDLE one", of("set a;set b;set ab;").withoutGenerator(2), 4);
             due("the first", of("set a;set b;set ab;").withoutGenerator(0), 3);
             due("of all SETS", of(ALL_SETS).withoutGenerator(6), 64);
+            UnionFamilies two = of("set a;set b;set cd;");
+            due("the last", two.withoutGenerator(2), 4);
+            due("the first behind it", two.withoutGenerator(0), 4);
+            due("the last again", two.withoutGenerator(2), 4);
             UnionFamilies x = of(PAIRS);
             stays(x, "the 12th, that is IDLE", () -> x.withoutGenerator(11), x.family(0));
         });
@@ -116,6 +120,8 @@ public final class EdgeWereTest extends Edges {
             // 0, bc: with a all three are in half; with b: 0, b, bc, b alone.
             due("not a", of("points 3;set bc;").spoiler(), B);
             due("the last POINT", of("points 7;set g;").spoiler(), G);
+            // 0, a, bc, abc: all three are in half; with b there are 6, and c is in 2 of these.
+            due("b, that makes c rare", of("set a;set bc;").spoiler(), B);
         });
         edge(47, "of several the first in order (MEMBERS, too)", () -> {
             // 0, c, abc: c is in half, and told again it changes nothing; with a or b there are two.
@@ -280,8 +286,10 @@ public final class EdgeWereTest extends Edges {
             due("the greatest", new UnionFamilies().spell(GREATEST), LACKS);
             due("the longest", longest().spell(215), LACKS);
             UnionFamilies x = of("set ab;");
+            due("set ab", x.spell(9), 's');
             x.drop(0);
             due("what was spelled ahead", x.spell(9), LACKS);
+            due("what was spelled ahead", x.spell(NONE), 9);
         });
         edge(52, "NONE: i below NONE.", () -> {
             due("-2", new UnionFamilies().spell(-2), NONE);
@@ -319,7 +327,7 @@ public final class EdgeWereTest extends Edges {
     /** As many of all things as there can be; of its GENERATORS ab, ac, bc, abc are IDLE. */
     private static UnionFamilies fullOfAll() {
         UnionFamilies x = of("points 7;weight a 9;weight b 9;weight c 9;weight d 9;weight e 9;weight f 9;weight g 9;"
-            + "set a;set b;set c;set ab;set ac;set bc;set abc;set de;set df;set dg;set ef;set eg;");
+            + "set ab;set a;set b;set c;set ac;set bc;set de;set df;set dg;set ef;set eg;set abc;");
         for (int set = 1; set <= 20; set++) {
             x.list(set);
         }
